@@ -709,10 +709,13 @@ public final class SpecRunner {
                 int operator = next();
                 int place = tokens.placeOf(now);
                 now++;
-                int test = level <= AND_LEVEL ? feature.code.add(UNLESS_DECIDED, operator, place) : -1;
+                boolean mayDecide = level <= AND_LEVEL;
+                int test = mayDecide ? feature.code.add(UNLESS_DECIDED, operator, place) : -1;
                 chain(level + 1, depth);
                 feature.code.add(OPERATE, operator, place);
-                feature.code.aim(test);
+                if (mayDecide) {
+                    feature.code.aim(test);
+                }
             }
         }
 
@@ -799,7 +802,7 @@ public final class SpecRunner {
 
         private void fail() {
             if (wrong < 0) {
-                wrong = now < tokens.size && now < SOURCE ? tokens.starts[now] : tokens.length;
+                wrong = now >= 0 && now < tokens.size && now < SOURCE ? tokens.starts[now] : tokens.length;
             }
             now = tokens.size;
         }
@@ -854,9 +857,11 @@ public final class SpecRunner {
                 }
                 return;
             }
-            for (int i = pick(statements.codeFrom, s); i < pick(statements.codeTo, s); i++) {
+            int end = pick(statements.codeTo, s);
+            for (int i = pick(statements.codeFrom, s); i < end; i++) {
                 int letter = pick(feature.code.details, i);
-                if (pick(feature.code.kinds, i) == LOAD && !(kind == CELL ? isLeftOf(letter, detail) : isKnown(letter))) {
+                boolean known = kind == CELL ? isLeftOf(letter, detail) : isKnown(letter);
+                if (pick(feature.code.kinds, i) == LOAD && !known) {
                     tell(2, pick(feature.code.places, i));
                 }
             }
@@ -1329,7 +1334,7 @@ public final class SpecRunner {
             for (int j = Math.min(size, SOURCE) - 1; j >= 0; j--) {
                 int line = 2;
                 int last = columns[j] + widthOf(shown[j]) - 1;
-                for (int turn = 0; turn < SOURCE && line < height && beginOf(line, j) - last <= 1; turn++) {
+                while (line < height && beginOf(line, j) - last <= 1) {
                     line++;
                 }
                 rows[j] = line;
