@@ -274,6 +274,8 @@ public final class GrammarTest {
         wrong("W:1 T:O(O(1))", 8);
         wrong("W:1 T:O(M(O(1)))", 10);
         wrong("W:1 T:O(1)+(1+O(2*O(1)))", 18);
+        wrong("W:1 T:1 D:a;O(1)", 12);
+        wrong("W:1 T:O(1) C:O(1)", 13);
         wrong("W:1 T:O 1", 8);
         wrong("W:1 T:O", 7);
         wrong("W:1 T:O()", 8);

@@ -85,6 +85,25 @@ final class Probe {
         return all.toString();
     }
 
+    /** Everything that an object tells of its latest judge and run. */
+    static String told(SpecRunner runner) {
+        StringBuilder all = new StringBuilder();
+        all.append("place ").append(runner.place()).append(", iterations ").append(runner.iterations()).append('\n');
+        for (int k = 0; k < 7; k++) {
+            all.append(runner.status(k)).append(' ').append(runner.failedAt(k)).append(' ').append(runner.second(k));
+            all.append(", called ").append(runner.calls(k, 0)).append(' ').append(runner.calls(k, 1)).append(", variables");
+            for (int v = 0; v < 26; v++) {
+                all.append(' ').append(runner.variable(k, v));
+            }
+            all.append(", values");
+            for (int j = 0; j < runner.values(k) + 1; j++) {
+                all.append(' ').append(runner.column(k, j)).append(':').append(runner.value(k, j));
+            }
+            all.append('\n').append(drawing(runner, k));
+        }
+        return all.toString();
+    }
+
     void finish() {
         System.out.println(test + ": " + compared + " answers compared, " + wrong + " wrong");
         if (wrong != 0) {

@@ -9,6 +9,7 @@ public final class RunTest {
         rows();
         rowsThatThrow();
         throwing();
+        failuresEndAPart();
         olds();
         ruleCounts();
         ruleChoice();
@@ -145,6 +146,15 @@ public final class RunTest {
         PROBE.ends("W:1/0 T:X W:1 T:!X", 0, -1);
         PROBE.ends("W:1/0 T:X W:1 T:X", 1, 16);
         PROBE.ends("W:1/0 T:1*M(_);X", 2, 8);
+    }
+
+    private static void failuresEndAPart() {
+        for (String claims : new String[] {"0;0", "X;0", "X;1/0", "0;1*M(_)", "X;1*M(_)", "1/0;0", "1*M(_);1*N(_)"}) {
+            SpecRunner runner = PROBE.ran("W:1 T:" + claims + " W:a=1 T:0 E:0 C:b=1", 1);
+            PROBE.due("no second failure of " + claims, runner.second(0), false);
+            PROBE.due("no part behind " + claims, runner.variable(0, 0), 0);
+            PROBE.due("the cleanup behind " + claims, runner.variable(0, 1), 1);
+        }
     }
 
     private static void olds() {
