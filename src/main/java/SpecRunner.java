@@ -309,7 +309,7 @@ public final class SpecRunner {
             if (isSmallLetter(c)) {
                 return add(VARIABLE, start, start + 1, c - 'a');
             }
-            return add(c == '&' ? NO_TOKEN : c, start, start + 1, 0);
+            return add(c == '&' ? NO_TOKEN : (int) c, start, start + 1, 0);
         }
 
         private int addNumber(char[] text, int start) {
@@ -1221,7 +1221,8 @@ public final class SpecRunner {
         private boolean rulesAreMet(int from, int to) {
             for (int s = from; s < to; s++) {
                 int r = pick(feature.statements.details, s);
-                if (feature.statements.kindOf(s) == RULE && pick(evaluator.ruleCalls, r) < pick(feature.rules.least, r)) {
+                boolean met = pick(evaluator.ruleCalls, r) >= pick(feature.rules.least, r);
+                if (feature.statements.kindOf(s) == RULE && !met) {
                     outcome.fail(MISCALLED, feature.statements.placeOf(s));
                     return false;
                 }
@@ -1267,7 +1268,7 @@ public final class SpecRunner {
         }
     }
 
-    /** The drawing of an expression that was not true: its text, its values, and in which line each value is written. */
+    /** The drawing of an expression that was not true: its text, its values, and the line in which each one stands. */
     private static final class Drawing {
         private final char[] text = new char[SOURCE];
         private final int[] columns = new int[SOURCE];
