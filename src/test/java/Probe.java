@@ -1,6 +1,7 @@
 /** What the tests share: it types sources, compares answers with those that are due, and ends a test. */
 final class Probe {
     private final String test;
+    private String sentence = "";
     private int compared;
     private int wrong;
 
@@ -8,11 +9,16 @@ final class Probe {
         this.test = test;
     }
 
+    /** Names the sentence of the document that the next comparisons are for; what is not as due tells it. */
+    void sentence(String words) {
+        sentence = "\n  for: " + words;
+    }
+
     void due(String what, long got, long want) {
         compared++;
         if (got != want) {
             wrong++;
-            System.out.println(test + ": " + what + " answered " + got + ", due is " + want);
+            System.out.println(test + ": " + what + " answered " + got + ", due is " + want + sentence);
         }
     }
 
@@ -24,7 +30,7 @@ final class Probe {
         compared++;
         if (!got.equals(want)) {
             wrong++;
-            System.out.println(test + ": " + what + " is\n" + got + "\ndue is\n" + want);
+            System.out.println(test + ": " + what + " is\n" + got + "\ndue is\n" + want + sentence);
         }
     }
 
