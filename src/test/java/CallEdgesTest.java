@@ -23,6 +23,7 @@ public final class CallEdgesTest {
         askingChangesNothing();
         latestRun();
         fiveHundredAndTwelve();
+        manyFailures();
         PROBE.finish();
     }
 
@@ -232,6 +233,14 @@ public final class CallEdgesTest {
             PROBE.due("its calls", runner.calls(k, 0), 0);
             PROBE.due("its drawing", runner.lines(k), 0);
         }
+        Probe.type(runner, "E:a;0C:1/0D:a;0;0;0;0;0;0");
+        PROBE.due("judge of one that fails in all rows", runner.judge(), 0);
+        PROBE.due("its run", runner.run(), 6);
+        Probe.type(runner, "E:1D:a;1;1;1;1;1;1");
+        PROBE.due("judge of one that fails in none", runner.judge(), 0);
+        PROBE.due("its run", runner.run(), 0);
+        SpecRunner fresh = PROBE.ran("E:1D:a;1;1;1;1;1;1", 0);
+        PROBE.due("nothing is left of the run before", Probe.told(runner), Probe.told(fresh));
     }
 
     private static void fiveHundredAndTwelve() {
@@ -261,5 +270,21 @@ public final class CallEdgesTest {
             PROBE.due("type " + turn, runner.type(' ', 1), false);
         }
         PROBE.due("the 512th call", runner.judge(), 1);
+    }
+
+    /** Evaluations that are cut short in their midst leave nothing behind, however many there are. */
+    private static void manyFailures() {
+        PROBE.sentence("An object is used for at most 512 calls after it has been made");
+        SpecRunner runner = new SpecRunner();
+        Probe.type(runner, "G:b=7W:c=b+2T:O(c)==0E:1-(2-(3-a/0))D:a;1;2;3;4;5;6");
+        PROBE.due("judge", runner.judge(), 0);
+        for (int turn = 0; turn < 480; turn++) {
+            PROBE.due("run " + turn, runner.run(), 6);
+        }
+        for (int k = 0; k < 6; k++) {
+            PROBE.due("status of " + k, runner.status(k), 3);
+            PROBE.due("failedAt of " + k, runner.failedAt(k), 32);
+            PROBE.due("variable of " + k, runner.variable(k, 2), 9);
+        }
     }
 }

@@ -65,6 +65,18 @@ public final class DrawingEdgesTest {
         draws("W:1/0T:X;0", "0");
         draws("E:0C:1/0", "0");
         draws("W:1T:0;1*M(_)", "0");
+        SpecRunner runner = draws("G:a=0E:a", "a", "|", "0");
+        for (String source : without) {
+            Probe.type(runner, source);
+            runner.judge();
+            runner.run();
+            PROBE.due("drawing of " + source + " behind one with a drawing", Probe.drawing(runner, 0), "");
+            PROBE.due("its values", runner.values(0), 0);
+            Probe.type(runner, "G:a=0E:a");
+            runner.judge();
+            runner.run();
+            PROBE.due("drawing behind " + source, Probe.drawing(runner, 0), "a\n|\n0\n");
+        }
     }
 
     private static void whatHasAValue() {

@@ -57,6 +57,11 @@ public final class JudgingEdgesTest {
         fine("G:b=a E:b D:a;1");
         fine("W:b=a T:O(a)==a C:a D:a;1");
         PROBE.verdict("G:" + "1;".repeat(56) + "1E:1+z", 2, 119);
+        SpecRunner runner = PROBE.ran("G:a=1 E:a+b D:b;1", 0);
+        for (String source : new String[] {"E:a", "E:b", "E:1 D:a;b", "E:1 D:b;a"}) {
+            Probe.type(runner, source);
+            PROBE.due("judge of " + source + " behind another source", runner.judge(), 2);
+        }
     }
 
     private static void ownStep() {

@@ -17,6 +17,7 @@ public final class RunEdgesTest {
         rowsFromLeft();
         rowThrows();
         partsUntilOneFails();
+        partsInARow();
         cleanupInAnyCase();
         expectations();
         stepsLeftOut();
@@ -263,6 +264,26 @@ public final class RunEdgesTest {
             for (int p = 0; p < parts; p++) {
                 PROBE.due("part " + p + " with " + bad, runner.variable(0, p), p <= bad ? 1 : 0);
             }
+        }
+    }
+
+    private static void partsInARow() {
+        PROBE.sentence("then the parts, one after the other, until something fails");
+        for (int bad = 0; bad <= 40; bad++) {
+            String source = "E:1".repeat(bad) + "E:0".repeat(40 - bad);
+            PROBE.ends(source, bad < 40 ? 1 : 0, bad < 40 ? 3 * bad + 2 : -1);
+        }
+        for (int bad = 0; bad <= 20; bad++) {
+            String source = "W:1T:1".repeat(bad) + "W:1T:X".repeat(20 - bad);
+            PROBE.ends(source, bad < 20 ? 1 : 0, bad < 20 ? 6 * bad + 5 : -1);
+        }
+        String[] failing = {"E:0", "E:1/0", "E:1;0", "W:1T:0", "W:1T:X", "W:1T:1*N(_)", "W:N(1)T:0*N(_)", "W:1/0T:1"};
+        for (String bad : failing) {
+            SpecRunner runner = PROBE.ran("W:a=1T:1" + bad + "W:b=1T:1E:M(1)", 1);
+            PROBE.due("the part before " + bad, runner.variable(0, 0), 1);
+            PROBE.due("the part behind " + bad, runner.variable(0, 1), 0);
+            PROBE.due("the last part behind " + bad, runner.calls(0, 0), 0);
+            PROBE.due("no second failure behind " + bad, runner.second(0), false);
         }
     }
 
