@@ -12,6 +12,7 @@ public final class SourceEdgesTest {
         characters();
         refusalsLeaveAll();
         clearing();
+        nothingLeftBehind();
         numbers();
         pairs();
         singleAnd();
@@ -164,6 +165,32 @@ public final class SourceEdgesTest {
         runner.clear();
         PROBE.due("the feature stays", runner.run(), 0);
         PROBE.due("its iterations", runner.iterations(), 1);
+    }
+
+    /** What a longer source held must not join with the last character of a shorter one that takes its place. */
+    private static void nothingLeftBehind() {
+        PROBE.sentence("The source is empty. (The feature stays.)");
+        String[] sources = {"E:1==1&&1!=1||1<=1&&1>=1;12345", "W:1T:1*M(_)>>1,2;! X D:a||b;1||2", "G:a=1234;a==1 E:a!=!a C:M(1)"};
+        for (String source : sources) {
+            for (int length = 0; length <= source.length(); length++) {
+                SpecRunner runner = new SpecRunner();
+                Probe.type(runner, source);
+                runner.judge();
+                Probe.type(runner, source.substring(0, length));
+                SpecRunner fresh = new SpecRunner();
+                Probe.type(fresh, source.substring(0, length));
+                PROBE.due("judge of " + source.substring(0, length), runner.judge(), fresh.judge());
+                PROBE.due("place of " + source.substring(0, length), runner.place(), fresh.place());
+            }
+        }
+        SpecRunner runner = new SpecRunner();
+        Probe.type(runner, "E:1==1");
+        Probe.type(runner, "E:1=");
+        PROBE.due("judge of E:1= behind E:1==1", runner.judge(), 1);
+        PROBE.due("place of E:1= behind E:1==1", runner.place(), 3);
+        Probe.type(runner, "E:12345");
+        Probe.type(runner, "E:1234");
+        PROBE.due("judge of E:1234 behind E:12345", runner.judge(), 0);
     }
 
     private static void numbers() {
